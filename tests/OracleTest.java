@@ -31,6 +31,7 @@ public final class OracleTest {
         final int top;
         final int span;
         final boolean wild;
+        final int items;
         int made = 0;
 
         Run(int seed) {
@@ -40,12 +41,17 @@ public final class OracleTest {
             left = random.nextInt(13 - Math.min(span, 12));
             top = random.nextInt(13 - Math.min(span, 12));
             wild = seed % 5 == 0;
+            items = seed % 3 == 0 ? 20 : 12;
         }
 
         void go() {
             int recipes = random.nextInt(10);
             for (int k = 0; k < recipes; k++) {
                 makeRecipe();
+            }
+            int shops = random.nextInt(4) * random.nextInt(4);
+            for (int k = 0; k < shops; k++) {
+                makeShop();
             }
             int parts = random.nextInt(Math.min(100, span * span + 1));
             for (int k = 0; k < parts; k++) {
@@ -59,6 +65,7 @@ public final class OracleTest {
         void step() {
             int r = random.nextInt(100);
             if (r < 2) makeRecipe();
+            else if (r < 4) makeShop();
             else if (r < 12) makePart();
             else if (r < 16) { int c = cell(); due("raze(" + c + ")", real.raze(c), oracle.raze(c)); }
             else if (r < 28) { int n = odd(200) ? number() : 1 + random.nextInt(random.nextInt(4) == 0 ? 200 : 6);
@@ -119,12 +126,12 @@ public final class OracleTest {
         }
 
         void makeRecipe() {
-            int item = odd(20) ? number() : 1 + random.nextInt(12);
+            int item = odd(20) ? number() : 1 + random.nextInt(items);
             int makes = odd(30) ? number() : 1 + random.nextInt(4);
             int ticks = odd(30) ? number() : 1 + random.nextInt(random.nextInt(3) == 0 ? 60 : 5);
-            int need1 = odd(30) ? number() : 1 + random.nextInt(random.nextBoolean() ? 3 : 12);
+            int need1 = odd(30) ? number() : 1 + random.nextInt(random.nextBoolean() ? 3 : items);
             int n1 = odd(30) ? number() : 1 + random.nextInt(4);
-            int need2 = odd(30) ? number() : random.nextInt(random.nextBoolean() ? 4 : 12);
+            int need2 = odd(30) ? number() : random.nextInt(random.nextBoolean() ? 4 : items + 1);
             int n2 = odd(30) ? number() : 1 + random.nextInt(4);
             int power = odd(30) ? number() : random.nextInt(101);
             due("recipe(" + item + ", " + makes + ", " + ticks + ", " + need1 + ", " + n1 + ", " + need2 + ", " + n2 + ", " + power + ")",
@@ -137,6 +144,39 @@ public final class OracleTest {
             due("build(" + Arrays.toString(p) + ")", real.build(p[0], p[1], p[2], p[3], p[4]), oracle.build(p[0], p[1], p[2], p[3], p[4]));
         }
 
+        /** A machine with sources of what it needs around it, and something behind it: most shops work. */
+        void makeShop() {
+            if (oracle.recipes.isEmpty()) {
+                return;
+            }
+            int cell = cell();
+            int number = random.nextInt(oracle.recipes.size());
+            int[] recipe = oracle.recipes.get(number);
+            int side = random.nextInt(4);
+            if (cell < 0 || cell > 143) {
+                return;
+            }
+            build(cell, 6, side, number, 0);
+            int[] behind = {7, 7, 1, 4, 6};
+            int next = oracle.next(cell, side);
+            if (next >= 0 && random.nextInt(5) != 0) {
+                int kind = behind[random.nextInt(behind.length)];
+                build(next, kind, kind == 4 ? 15 - (1 << (side + 2) % 4) : side, random.nextInt(oracle.recipes.size()), 0);
+            }
+            for (int k = 1; k <= 3; k++) {
+                int from = oracle.next(cell, (side + k) % 4);
+                int need = k == 2 || recipe[5] == 0 ? recipe[3] : recipe[5];
+                if (from >= 0 && random.nextInt(6) != 0) {
+                    build(from, 5, (side + k + 2) % 4, need, 1 + random.nextInt(random.nextInt(4) == 0 ? 20 : 3));
+                }
+            }
+        }
+
+        void build(int cell, int kind, int side, int arg, int period) {
+            due("build(" + cell + ", " + kind + ", " + side + ", " + arg + ", " + period + ")",
+                    real.build(cell, kind, side, arg, period), oracle.build(cell, kind, side, arg, period));
+        }
+
         int[] partArguments() {
             int[] kinds = {1, 1, 1, 1, 2, 2, 3, 3, 4, 4, 5, 5, 6, 6, 7};
             int kind = odd(40) ? number() : kinds[random.nextInt(kinds.length)];
@@ -146,7 +186,8 @@ public final class OracleTest {
             if ((kind == 2 || kind == 3) && random.nextInt(3) != 0) {
                 side = seed & 3;
             }
-            int arg = odd(30) ? number() : kind == 6 ? random.nextInt(Math.max(1, oracle.recipes.size())) : 1 + random.nextInt(4);
+            int arg = odd(30) ? number() : kind == 6 ? random.nextInt(Math.max(1, oracle.recipes.size()))
+                    : random.nextInt(12) == 0 ? 20 : 1 + random.nextInt(4);
             int period = odd(30) ? number() : 1 + random.nextInt(random.nextInt(4) == 0 ? 60 : 4);
             return new int[] {cell(), kind, side, arg, period};
         }
@@ -206,7 +247,7 @@ public final class OracleTest {
         }
 
         void wishCall() {
-            int item = 1 + random.nextInt(12);
+            int item = 1 + random.nextInt(items);
             if (!oracle.recipes.isEmpty() && random.nextInt(4) != 0) {
                 item = oracle.recipes.get(random.nextInt(oracle.recipes.size()))[0];
             }

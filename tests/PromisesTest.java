@@ -42,6 +42,7 @@ public final class PromisesTest {
         ticksAreLimited();
         turns();
         turnsOfMachines();
+        turnsAmidWork();
         parts();
         wishes();
         wishesRefused();
@@ -799,6 +800,48 @@ public final class PromisesTest {
         due(x.cellTurn(1, 4), 1);
         // work in a turn without moving: it can't come again, so such a turn is still
         due(x.turned(4), 1);
+    }
+
+    /** A machine that works, looked at by turn() in the midst of it, razed and built anew. */
+    private static void turnsAmidWork() {
+        fresh(16);
+        due(x.recipe(3, 4, 5, 1, 1, 0, 0, 7), 0);
+        due(x.build(0, SOURCE, 1, 1, 1), 1);
+        due(x.build(1, MACHINE, 1, 0, 0), 1);
+        due(x.tick(4), 0);
+        due(x.part(1, 5), 2);
+        due(x.raze(0), SOURCE);
+        due(x.part(1, 7), 2);
+        // ends at ticks 3 and 8 from here; 8 made are more than 4, so the third item lies in its store
+        due(x.turn(8), 0);
+        due(x.turn(9), 1);
+        due(x.turned(0), 8);
+        due(x.part(1, 5), 2);
+        due(x.part(1, 6), 1);
+        due(x.raze(1), MACHINE);
+        due(x.part(1, 5), 0);
+        due(x.part(1, 6), 0);
+        due(x.part(1, 7), 0);
+        due(x.build(1, MACHINE, 1, 0, 0), 1);
+        for (int what = 2; what <= 8; what++) due(x.part(1, what), 0);
+        due(x.tick(6), 0);
+        due(x.part(1, 4), 0);
+        // 4 made each 4 ticks, one away each tick, so MADE is never 0 at a tick's end, and yet it isn't stuck
+        fresh(18);
+        due(x.recipe(3, 4, 4, 1, 1, 0, 0, 7), 0);
+        due(x.build(0, SOURCE, 1, 1, 1), 1);
+        due(x.build(1, MACHINE, 1, 0, 0), 1);
+        due(x.tick(12), 0);
+        due(x.part(1, 4), 8);
+        due(x.build(2, SINK, 0, 0, 0), 1);
+        due(x.turn(100), 4);
+        due(x.turned(2), 4);
+        due(x.turned(3), 7);
+        due(x.cellTurn(1, 1), 4);
+        due(x.cellTurn(1, 2), 1);
+        due(x.cellTurn(1, 3), 0);
+        due(x.cellTurn(1, 4), 0);
+        due(x.cellTurn(0, 3), 0);
     }
 
     private static void parts() {

@@ -261,7 +261,11 @@ public final class FloorTurn {
         if (!within(limit, 1, MOST_LIMIT)) {
             return refuse(WRONG);
         }
-        return finder.seek(floor, limit);
+        if (!finder.seek(floor, limit)) {
+            return 0;
+        }
+        finder.watchTurn();
+        return finder.length;
     }
 
     public int turned(int what) {
@@ -738,8 +742,19 @@ public final class FloorTurn {
                 giver[c] = NONE;
             }
             for (int c = 0; c < CELLS; c++) {
-                if (parts[c].offered() != 0) {
-                    offerFrom(c);
+                int item = parts[c].offered();
+                if (item != 0) {
+                    switch (parts[c].kind) {
+                        case TUNNEL:
+                            offerThrough(c, parts[c].side);
+                            break;
+                        case SPLITTER:
+                            offerRound(c, parts[c]);
+                            break;
+                        default:
+                            offerOver(c, parts[c].side, item);
+                            break;
+                    }
                 }
             }
             int came = 0;
@@ -750,17 +765,6 @@ public final class FloorTurn {
             }
             ticks++;
             return came;
-        }
-
-        private void offerFrom(int cell) {
-            Part part = parts[cell];
-            if (part.kind == TUNNEL) {
-                offerThrough(cell, part.side);
-            } else if (part.kind == SPLITTER) {
-                offerRound(cell, part);
-            } else {
-                offerOver(cell, part.side, part.offered());
-            }
         }
 
         /** Offers to the nearest exit of the same side, full or not: none behind it counts. */
@@ -864,8 +868,8 @@ public final class FloorTurn {
             ghost = new Floor(book);
         }
 
-        /** The length of the turn, 0 if it isn't found. */
-        int seek(Floor floor, int limit) {
+        /** Finds where the turn begins and how long it is; leaves the ghost where it has just come back there. */
+        boolean seek(Floor floor, int limit) {
             ghost.copyPartsFrom(floor);
             found = false;
             keepState(0);
@@ -879,12 +883,7 @@ public final class FloorTurn {
                     length = t - like;
                 }
             }
-            if (!found) {
-                return 0;
-            }
-            // The ghost stands where the turn begins: it has just come back there.
-            watchTurn();
-            return length;
+            return found;
         }
 
         private void keepState(int t) {
@@ -915,7 +914,7 @@ public final class FloorTurn {
             return true;
         }
 
-        private void watchTurn() {
+        void watchTurn() {
             came = 0;
             power = 0;
             still = true;
@@ -1330,10 +1329,8 @@ public final class FloorTurn {
         }
 
         long rateOf(int item, boolean lower) {
-            long common = commonDivisor(tops[item], bottom);
-            if (common == 0) {
-                return lower ? 1 : 0;
-            }
+            // The bottom is never 0, so the divisor isn't either.
+            long common = Math.max(1, commonDivisor(tops[item], bottom));
             return (lower ? bottom : tops[item]) / common;
         }
 
