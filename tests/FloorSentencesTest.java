@@ -14,6 +14,49 @@ public final class FloorSentencesTest extends Checks {
         due(x.status(0), 2);
     }
 
+    @Says(in = "1. THE FLOOR", words = "CELLS 0 to 143:")
+    static void everyCellTakesAndGives() {
+        for (int cell = 0; cell < 144; cell++) {
+            fresh();
+            int along = cell % 12 == 0 ? RIGHT : LEFT;
+            int across = cell < 12 ? DOWN : UP;
+            source(away(cell, along, 1), opposite(along), 4, 1);
+            belt(cell, across);
+            sink(away(cell, across, 1));
+            due(x.tick(1), 0);
+            tells(cell, 2, 4, 9, along);
+            due(x.tick(1), 1);
+            tells(cell, 2, 0, 14, 1);
+            due(x.turn(400), 2);
+            for (int what = 0; what <= 3; what++) due(x.cellTurn(cell, what), what < 2 ? 1 : 0);
+            due(x.raze(away(cell, across, 1)), SINK);
+            due(x.turn(400), 1);
+            due(x.cellTurn(cell, 3), 1);
+        }
+    }
+
+    @Says(in = "1. THE FLOOR", words = "CELLS 0 to 143:")
+    static void everyCellMayBeASinkOrAMachine() {
+        for (int cell = 0; cell < 144; cell++) {
+            fresh();
+            due(x.recipe(3, 1, 1, 4, 1, 0, 0, 50), 0);
+            int along = cell % 12 == 0 ? RIGHT : LEFT;
+            int across = cell < 12 ? DOWN : UP;
+            source(away(cell, along, 1), opposite(along), 4, 1);
+            sink(cell);
+            due(x.tick(3), 3);
+            due(x.part(cell, 13), 3);
+            due(x.raze(cell), SINK);
+            machine(cell, across, 0);
+            due(x.turn(400), 1);
+            due(x.cellTurn(cell, 3), 1);
+            sink(away(cell, across, 1));
+            due(x.turn(400), 1);
+            due(x.turned(3), 50);
+            due(x.cellTurn(cell, 2), 1);
+        }
+    }
+
     @Says(in = "1. THE FLOOR", words = "12 times y and x, x and y 0 to 11.")
     static void aRowEndsAtItsTwelfthCell() {
         for (int row = 0; row < 12; row++) {

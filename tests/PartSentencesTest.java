@@ -388,6 +388,31 @@ public final class PartSentencesTest extends Checks {
         due(x.status(4), 0);
     }
 
+    @Says(in = "Promise 5", words = "(what is in the PART is gone)")
+    static void clockAndWorkOfARazedPartAreGone() {
+        due(x.recipe(3, 4, 9, 1, 1, 0, 0, 0), 0);
+        source(0, RIGHT, 1, 7);
+        machine(1, RIGHT, 0);
+        due(x.tick(11), 0);
+        // the clock at 4, work begun in tick 8
+        due(x.part(0, 3), 4);
+        tells(1, 5, 3, 6, 1);
+        due(x.raze(0), SOURCE);
+        due(x.raze(1), MACHINE);
+        due(x.part(0, 3), 0);
+        tells(1, 5, 0, 6, 0);
+        source(0, RIGHT, 1, 7);
+        machine(1, RIGHT, 0);
+        due(x.part(0, 3), 0);
+        tells(1, 5, 0, 6, 0);
+        due(x.tick(7), 0);
+        tells(1, 4, 0, 5, 0, 6, 0, 7, 1);
+        due(x.tick(9), 0);
+        tells(1, 4, 0, 5, 8, 6, 1);
+        due(x.tick(1), 0);
+        tells(1, 4, 4, 5, 0);
+    }
+
     @Says(in = "Promise 5", words = "-1.")
     static void razeOfNoCellIsRefused() {
         refused(-1, () -> x.raze(-1));

@@ -826,9 +826,9 @@ public final class PromisesTest {
         for (int what = 2; what <= 8; what++) due(x.part(1, what), 0);
         due(x.tick(6), 0);
         due(x.part(1, 4), 0);
-        // 4 made each 4 ticks, one away each tick, so MADE is never 0 at a tick's end, and yet it isn't stuck
+        // it begins with 4, ends 3 ticks on, and gives one each tick: MADE is never 0 at an end, and yet it isn't stuck
         fresh(18);
-        due(x.recipe(3, 4, 4, 1, 1, 0, 0, 7), 0);
+        due(x.recipe(3, 4, 3, 1, 1, 0, 0, 7), 0);
         due(x.build(0, SOURCE, 1, 1, 1), 1);
         due(x.build(1, MACHINE, 1, 0, 0), 1);
         due(x.tick(12), 0);

@@ -52,6 +52,55 @@ public final class TurnSentencesTest extends Checks {
         turnIs(9, 1);
     }
 
+    @Says(in = "3. TURNS", words = "CLOCKS, STORES, MADE,")
+    static void storesAreToldApartWhenTheOtherOneIsFull() {
+        due(x.recipe(3, 1, 60, 1, 4, 2, 4, 0), 0);
+        machine(1, RIGHT, 0);
+        source(13, UP, 2, 1);
+        due(x.tick(9), 0);
+        due(x.raze(13), SOURCE);
+        tells(1, 7, 0, 8, 8);
+        // four of item 1 come in ticks 1 to 4; work begins in ticks 5 and 65 and ends in 65 and 125
+        source(0, RIGHT, 1, 1);
+        turnIs(125, 1);
+    }
+
+    @Says(in = "3. TURNS", words = "CLOCKS, STORES, MADE,")
+    static void storesAreToldApartWhenMadeIsFull() {
+        due(x.recipe(3, 4, 1, 1, 1, 2, 1, 0), 0);
+        machine(1, RIGHT, 0);
+        for (int k = 0; k < 2; k++) {
+            source(0, RIGHT, 1, 1);
+            due(x.tick(1), 0);
+            due(x.raze(0), SOURCE);
+            source(13, UP, 2, 1);
+            due(x.tick(1), 0);
+            due(x.raze(13), SOURCE);
+            due(x.tick(2), 0);
+        }
+        tells(1, 4, 8, 7, 0, 8, 0);
+        // two of item 2 come, then the source fills
+        source(13, UP, 2, 1);
+        turnIs(3, 1);
+    }
+
+    @Says(in = "3. TURNS", words = "STORES, MADE, WORK,")
+    static void muchMadeAndLittleWorkIsNotTheOtherWayAbout() {
+        // 4 are made while it works again for 60 ticks; the sink takes them in turns with what comes from above
+        due(x.recipe(3, 4, 60, 1, 1, 0, 0, 0), 0);
+        source(at(0, 1), RIGHT, 1, 1);
+        machine(at(1, 1), RIGHT, 0);
+        due(x.tick(3), 0);
+        due(x.raze(at(0, 1)), SOURCE);
+        due(x.tick(59), 0);
+        tells(at(1, 1), 4, 4, 5, 0, 6, 1, 7, 1);
+        sink(at(2, 1));
+        source(at(2, 0), DOWN, 9, 1);
+        // it ends in ticks 60 and 120, gives in ticks 120, 122, 124 and 126, and what waited above goes in tick 127
+        turnIs(127, 1);
+        due(x.turned(2), 1);
+    }
+
     @Says(in = "3. TURNS", words = "STORES, MADE, WORK,")
     static void madeIsOfTheState() {
         due(x.recipe(3, 4, 1, 1, 1, 0, 0, 0), 0);
@@ -129,6 +178,22 @@ public final class TurnSentencesTest extends Checks {
             due(x.tick(1), 0);
             turnIs(Math.max(0, 4 - ahead), 1);
         }
+    }
+
+    @Says(in = "3. TURNS", words = "It comes again: from the floor as it is,")
+    static void aMachineAmidItsWorkIsOfTheFloorAsItIs() {
+        due(x.recipe(3, 4, 10, 1, 1, 0, 0, 0), 0);
+        source(0, RIGHT, 1, 1);
+        machine(1, RIGHT, 0);
+        due(x.tick(15), 0);
+        due(x.raze(0), SOURCE);
+        // begun in ticks 2 and 12
+        tells(1, 4, 4, 5, 3, 6, 1, 7, 2);
+        // it ends 7 ticks on, and then it has made more than it makes
+        turnIs(7, 1);
+        due(x.cellTurn(1, 3), 1);
+        due(x.cellTurn(1, 4), 0);
+        tells(1, 4, 4, 5, 3, 6, 1, 7, 2);
     }
 
     @Says(in = "3. TURNS", words = "FIRST is the least number of TICKS behind which the STATE is one that comes again later,")
@@ -443,14 +508,15 @@ public final class TurnSentencesTest extends Checks {
 
     @Says(in = "Promise 18", words = "at the end of each TICK it has an ITEM (MADE), and gave none;")
     static void aMachineThatAlwaysHasSomeMadeAndGivesIsNotStuck() {
-        // 4 made each 4 ticks and one given in each: MADE is never 0 at an end
-        due(x.recipe(3, 4, 4, 1, 1, 0, 0, 0), 0);
+        // one given in each tick; it begins with 4, ends behind 3 ticks, and begins one later: 3, 2, 1, 4 at the ends
+        due(x.recipe(3, 4, 3, 1, 1, 0, 0, 0), 0);
         source(0, RIGHT, 1, 1);
         machine(1, RIGHT, 0);
         due(x.tick(12), 0);
         due(x.part(1, 4), 8);
         sink(2);
-        due(x.turn(400), 4);
+        turnIs(4, 4);
+        due(x.turned(2), 4);
         due(x.cellTurn(1, 1), 4);
         due(x.cellTurn(1, 3), 0);
         // and its source waits at some ends, but gives

@@ -163,6 +163,24 @@ public final class WaySentencesTest extends Checks {
         }
     }
 
+    @Says(in = "Promise 24", words = "0 if none is wanted (from leads to to,")
+    static void noBeltIsWantedOnAnyOfTheFourSides() {
+        for (int lead = 0; lead < 4; lead++) {
+            fresh();
+            belt(MID, lead);
+            for (int side = 0; side < 4; side++) sink(away(MID, side, 1));
+            for (int side = 0; side < 4; side++) due(x.path(MID, away(MID, side, 1)), side == lead ? 0 : NONE);
+        }
+        for (int outs : new int[] {3, 5, 6, 7, 9, 10, 11, 12, 13, 14}) {
+            fresh();
+            splitter(MID, outs);
+            for (int side = 0; side < 4; side++) sink(away(MID, side, 1));
+            for (int side = 0; side < 4; side++) {
+                due(x.path(MID, away(MID, side, 1)), (outs >> side & 1) == 1 ? 0 : NONE);
+            }
+        }
+    }
+
     @Says(in = "Promise 24", words = "(from leads to to, and not the other way about, already);")
     static void twoThatLeadToOneAnotherAreNotJoined() {
         belt(MID, RIGHT);
@@ -265,6 +283,19 @@ public final class WaySentencesTest extends Checks {
         laid(at(1, 0), DOWN, RIGHT, RIGHT, UP, RIGHT);
         due(x.tick(5), 0);
         due(x.tick(1), 1);
+    }
+
+    @Says(in = "Promise 25", words = "Such a way is built: how many BELTS;")
+    static void straightWaysAreBuiltToEachSide() {
+        for (int side = 0; side < 4; side++) {
+            fresh();
+            source(MID, side, 1, 1);
+            sink(away(MID, side, 4));
+            due(x.lay(MID, away(MID, side, 4)), 3);
+            laid(away(MID, side, 1), side, side, side);
+            due(x.status(0), 5);
+            due(x.tick(4), 1);
+        }
     }
 
     @Says(in = "Promise 25", words = "Such a way is built: how many BELTS;")

@@ -35,6 +35,31 @@ public final class WishSentencesTest extends Checks {
     }
 
     @Says(in = "4. WISHES", words = "and what is needed of it for the others' RATES;")
+    static void theOrderOfRecipesDoesNotCount() {
+        // 3 from two 4 and one 5, 4 from three 5, 5 from one 6, 6 from one 1: 1, 2, 7 and 7 of them
+        int[][] made = {{3, 4, 2, 5, 1}, {4, 5, 3, 0, 0}, {5, 6, 1, 0, 0}, {6, 1, 1, 0, 0}};
+        for (int order = 0; order < 24; order++) {
+            fresh();
+            int left = order;
+            boolean[] entered = new boolean[4];
+            for (int r = 0; r < 4; r++) {
+                int k = left % (4 - r);
+                left /= 4 - r;
+                int next = 0;
+                while (entered[next] || k-- > 0) next++;
+                entered[next] = true;
+                int[] of = made[next];
+                due(x.recipe(of[0], 1, 1, of[1], of[2], of[3], of[4], 0), r);
+            }
+            due(x.wish(3, 1, 1), 1 + 2 + 7 + 7);
+            rateIs(4, 2, 1);
+            rateIs(5, 7, 1);
+            rateIs(6, 7, 1);
+            rateIs(1, 7, 1);
+        }
+    }
+
+    @Says(in = "4. WISHES", words = "and what is needed of it for the others' RATES;")
     static void whatIsNotNeededHasNoRate() {
         due(x.recipe(3, 1, 1, 1, 1, 0, 0, 0), 0);
         due(x.recipe(4, 1, 1, 3, 1, 0, 0, 0), 1);
