@@ -6,10 +6,11 @@ import java.util.regex.Pattern;
 /** Looks through the program's text for what ../shared/LANGUAGE.md rules out and a text search can see. */
 public final class LanguageTest {
     private static final String[] RULED_OUT = {
-        "\\bthrow\\b", "\\btry\\b", "\\bcatch\\b", "\\bsynchronized\\b", "\\bassert\\b", "->", "::", "@\\w+",
-        "\\bequals\\b", "\\bhashCode\\b", "\\btoString\\b", "\\bprotected\\b", "Exact\\b", "\\bNaN\\b",
-        "\\bimport (?!java\\.util\\.Arrays;)", "\\bSystem\\.(?!arraycopy)", "\\bpackage\\b", "\\brecord\\b",
+        "\\bthrow\\b", "\\bthrows\\b", "\\btry\\b", "\\bcatch\\b", "\\bsynchronized\\b", "\\bassert\\b", "->", "::", "@\\w+",
+        "\\b(boolean equals|int hashCode|String toString)\\(", "\\bprotected\\b", "Exact\\b", "\\bNaN\\b", "\\bpackage\\b",
+        "\\bimport (?!java\\.util\\.(Arrays|ArrayList|List|Iterator);)", "\\bSystem\\.(?!arraycopy)",
         "\\bnew \\w+\\s*\\([^)]*\\)\\s*\\{", "\\bThread\\b", "\\bRandom\\b", "\\bstatic\\s*\\{", "\\bwhile\\s*\\(true\\)",
+        "\\bfor\\s*\\([^;)]*;\\s*;",
     };
     private static final String FACE = "recipe|build|builds|raze|row|set|copy|element|clear|holds|take|put|partsIn|tick|turn"
             + "|turned|cellTurn|part|sunk|wish|machines|rate|path|lay|status";
@@ -40,7 +41,7 @@ public final class LanguageTest {
 
     /** The face's members are public, all others of the outer class private; the inner classes use other names. */
     private static void checkMembers(String code) {
-        Matcher member = Pattern.compile("(?m)^    (?! |\\}|public |private )(.+)$").matcher(code);
+        Matcher member = Pattern.compile("(?m)^    (?! |\\}|public |private |static (?:final |abstract )?(?:class|record|enum|interface) )(.+)$").matcher(code);
         while (member.find()) {
             say("a member of the class is neither public nor private: " + member.group(1));
         }
