@@ -1296,11 +1296,12 @@ public final class FloorTurn {
             int sum = 0;
             for (int round = 0; round < RECIPES; round++) {
                 int next = unneeded(left);
-                if (next == NONE) {
+                Recipe recipe = book.numbered(next);
+                if (recipe == null) {
                     return sum;
                 }
                 left &= ~(1 << next);
-                machines[next] = run(book.recipes[next]);
+                machines[next] = run(recipe);
                 sum += machines[next];
             }
             return sum;
